@@ -569,9 +569,12 @@ public final class FanHouse {
         }
 
         int number(int low, int high) {
+            if (isFaulty()) {
+                return low;
+            }
             int start = next();
             int value = 0;
-            while (!isFaulty() && isFrom(place, '0', '9')) {
+            while (place < end && isFrom(place, '0', '9')) {
                 value = Math.min(10 * value + bytes[place] - '0', BEYOND);
                 place++;
             }
@@ -585,9 +588,10 @@ public final class FanHouse {
 
         /** Takes the word, if all the letters that come next are that word. */
         boolean takesWord(String word) {
-            if (!startsWord()) {
+            if (isFaulty()) {
                 return false;
             }
+            next();
             int length = word.length();
             for (int i = 0; i < length; i++) {
                 char letter = word.charAt(i);
@@ -686,7 +690,7 @@ public final class FanHouse {
         }
 
         private static boolean isHalf(int stick, int half) {
-            return isWithin(stick, 0, STICKS_MOST - 1) && isWithin(half, 0, HALVES - 1);
+            return stick >= 0 && stick < STICKS_MOST && half >= 0 && half < HALVES;
         }
 
         private void setToldMark(int stick, int half, int mark) {
@@ -853,14 +857,16 @@ public final class FanHouse {
 
     /** A LAW as codes of which each takes what the ones ahead of it have left on a stack. */
     private static final class Law {
-        private static final int VIEW = -1;
-        private static final int WIDE = -2;
-        private static final int WEAR = -3;
-        private static final int OPENED = -4;
-        private static final int TURNED = -5;
-        private static final int POTS = -6;
-        private static final int SEASON = -7;
+        private static final int VIEW = 0;
+        private static final int WIDE = 1;
+        private static final int WEAR = 2;
+        private static final int OPENED = 3;
+        private static final int TURNED = 4;
+        private static final int POTS = 5;
+        private static final int SEASON = 6;
         private static final int FACTS = 7;
+        /** The code of fact i is this less i. */
+        private static final int FIRST_FACT = -1;
         private static final int PLUS = -11;
         private static final int MINUS = -12;
         private static final int TIMES = -13;
@@ -877,12 +883,12 @@ public final class FanHouse {
         private int size = 1;
 
         Law() {
-            codes[0] = WIDE;
+            codes[0] = FIRST_FACT - WIDE;
         }
 
         /** The LAW that holds without one. */
         void clear() {
-            codes[0] = WIDE;
+            codes[0] = FIRST_FACT - WIDE;
             size = 1;
         }
 
@@ -960,38 +966,31 @@ public final class FanHouse {
         }
 
         private void readFact(Tape tape, int start) {
-            int code = tape.takesWord("view") ? VIEW
+            int fact = tape.takesWord("view") ? VIEW
                     : tape.takesWord("wide") ? WIDE
                     : tape.takesWord("wear") ? WEAR
                     : tape.takesWord("opened") ? OPENED
                     : tape.takesWord("turned") ? TURNED
                     : tape.takesWord("pots") ? POTS
-                    : tape.takesWord("season") ? SEASON : 0;
-            if (code == 0) {
+                    : tape.takesWord("season") ? SEASON : NONE;
+            if (fact == NONE) {
                 tape.blame(CANNOT_STAND, start);
             } else {
-                add(code);
-            }
-        }
-
-        private void tell(int code, int value) {
-            int i = -1 - code;
-            if (isWithin(i, 0, FACTS - 1)) {
-                facts[i] = value;
+                add(FIRST_FACT - fact);
             }
         }
 
         void tellOpening(int view, int wide) {
-            tell(VIEW, view);
-            tell(WIDE, wide);
+            facts[VIEW] = view;
+            facts[WIDE] = wide;
         }
 
         void tellState(int wear, int opened, int turned, int pots, int season) {
-            tell(WEAR, wear);
-            tell(OPENED, opened);
-            tell(TURNED, turned);
-            tell(POTS, pots);
-            tell(SEASON, season);
+            facts[WEAR] = wear;
+            facts[OPENED] = opened;
+            facts[TURNED] = turned;
+            facts[POTS] = pots;
+            facts[SEASON] = season;
         }
 
         int strainOf(Fan fan, int view, int wide) {
@@ -1001,10 +1000,6 @@ public final class FanHouse {
         }
 
         int strainAsTold() {
-            return Math.max(0, Math.min(value(), STRAIN_MOST));
-        }
-
-        private int value() {
             int height = 0;
             for (int i = 0; i < size; i++) {
                 int code = codes[i];
@@ -1017,12 +1012,12 @@ public final class FanHouse {
                     height++;
                 }
             }
-            return stack[0];
+            return Math.max(0, Math.min(stack[0], STRAIN_MOST));
         }
 
         private int fact(int code) {
-            int i = -1 - code;
-            return isWithin(i, 0, FACTS - 1) ? facts[i] : 0;
+            int i = FIRST_FACT - code;
+            return i >= 0 && i < FACTS ? facts[i] : 0;
         }
 
         private static int join(int code, int a, int b) {

@@ -480,6 +480,8 @@ public final class PromiseTest {
         due("11: alike", house.stick(0, 6), 6);
         due("11: none alike", house.stick(3, 6), 0);
         due("11: not turned", house.stick(0, 1), 0);
+        due("11: one half differs", Checks.house("stick 1 2 3 4;stick 9 2 3 4;").stick(0, 6), 0);
+        due("11: one half differs", Checks.house("stick 1 2 3 4;stick 1 2 3 9;").stick(0, 6), 0);
         Checks.missing("11: stick(4, 0)", () -> house.stick(4, 0));
         Checks.missing("11: stick(-1, 9)", () -> house.stick(-1, 9));
         Checks.illegal("11: stick(0, 7)", () -> house.stick(0, 7));
@@ -1060,6 +1062,28 @@ public final class PromiseTest {
         due("36: undo behind it", house.undo(), 0);
         due("36: shut", house.told(7), NONE);
         due("36: turned back", house.told(6), 0);
+        restoreKeepsWorks();
+    }
+
+    private static void restoreKeepsWorks() {
+        FanHouse house = Checks.house(THREE);
+        Checks.work(house, "turn 0;");
+        Checks.work(house, "turn 1;");
+        house.image();
+        house.undo();
+        house.undo();
+        Checks.work(house, "turn 2;");
+        Checks.work(house, "season;");
+        Checks.work(house, "season;");
+        due("36: restore", house.restore(), 0);
+        due("36: turned over", house.told(6), 3);
+        due("36: undo", house.undo(), 1);
+        due("36: as ahead of that WORK", house.told(6), 1);
+        due("36: undo", house.undo(), 0);
+        due("36: as ahead of all", house.told(6), 0);
+        due("36: REFUSED by the latest WORK", Checks.work(house, "oil;"), 0);
+        due("36: none to restore", house.restore(), -1);
+        due("36: nothing is done then", house.told(10), 1);
     }
 
     private static void status() {
