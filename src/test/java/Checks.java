@@ -4,6 +4,9 @@ import java.nio.charset.StandardCharsets;
 final class Checks {
     private static int done = 0;
     private static int wrong = 0;
+    private static int edges = 0;
+    /** The sentence of the document that is looked at now. */
+    private static String sentence = "";
 
     private Checks() {
     }
@@ -13,11 +16,32 @@ final class Checks {
         int answer();
     }
 
+    /** A test of its own for one sentence. */
+    interface Edge {
+        void look();
+    }
+
+    /** Looks at one sentence of the document that names an edge; what it throws ends this test alone. */
+    static void edge(String words, Edge test) {
+        sentence = words;
+        edges++;
+        try {
+            test.look();
+        } catch (RuntimeException e) {
+            tell("threw " + e);
+        }
+        sentence = "";
+    }
+
+    private static void tell(String text) {
+        wrong++;
+        System.out.println((sentence.isEmpty() ? "" : "[" + sentence + "] ") + text);
+    }
+
     static void due(String what, long got, long want) {
         done++;
         if (got != want) {
-            wrong++;
-            System.out.println(what + " answered " + got + ", due is " + want);
+            tell(what + " answered " + got + ", due is " + want);
         }
     }
 
@@ -29,12 +53,10 @@ final class Checks {
         done++;
         try {
             int got = call.answer();
-            wrong++;
-            System.out.println(what + " answered " + got + ", due is " + reason.getSimpleName());
+            tell(what + " answered " + got + ", due is " + reason.getSimpleName());
         } catch (RuntimeException e) {
             if (e.getClass() != reason) {
-                wrong++;
-                System.out.println(what + " threw " + e + ", due is " + reason.getSimpleName());
+                tell(what + " threw " + e + ", due is " + reason.getSimpleName());
             }
         }
     }
@@ -92,7 +114,8 @@ final class Checks {
     }
 
     static void end(String test) {
-        System.out.println(test + ": " + done + " checks, " + wrong + " wrong");
+        String of = edges == 0 ? "" : edges + " sentences, ";
+        System.out.println(test + ": " + of + done + " checks, " + wrong + " wrong");
         if (wrong > 0) {
             System.exit(1);
         }
