@@ -563,8 +563,14 @@ public final class FanHouse {
         }
 
         void expect(char sign) {
-            if (!takes(sign)) {
-                blame(CANNOT_STAND, place);
+            if (isFaulty()) {
+                return;
+            }
+            int here = next();
+            if (isFrom(here, sign, sign)) {
+                place++;
+            } else {
+                blame(CANNOT_STAND, here);
             }
         }
 

@@ -221,8 +221,10 @@ public final class CallEdgeTest {
     private static void fanLeaves() {
         edge("3: (no LAW, PICTURE, OTHER, BOOK, IMAGES, nothing to undo)", () -> {
             FanHouse house = full();
+            Checks.law(house, "2+40");
             due("fan", Checks.fan(house, ALIKE), 1);
             due("LAW", house.strain(0, 3), 3);
+            due("LAW", house.strain(3, 7), 7);
             due("PICTURE", house.told(11), 0);
             due("OTHER", house.told(12), 0);
             due("BOOK", house.told(9), 0);
@@ -520,6 +522,18 @@ public final class CallEdgeTest {
     }
 
     private static void told() {
+        edge("10: 0 STICKS, 1 N of rivet, 2 by how much it is worn, 3 pots, 4 the SEASON", () -> {
+            for (int n = 0; n <= 7; n++) {
+                FanHouse house = Checks.house(ALIKE.repeat(n) + "rivet 200;paint 90;");
+                Checks.law(house, "60");
+                Checks.work(house, "open 0 1;season;season;");
+                due("STICKS", house.told(0), n);
+                due("rivet", house.told(1), 200);
+                due("worn", house.told(2), n > 0 ? 54 : 0);
+                due("pots", house.told(3), 94);
+                due("SEASON", house.told(4), 2);
+            }
+        });
         edge("10: 7 the VIEW it shows now (NONE: it is shut), 8 to how many STICKS it is opened (0: it is shut)", () -> {
             FanHouse house = Checks.house(THREE);
             due("VIEW", house.told(7), NONE);
@@ -600,6 +614,16 @@ public final class CallEdgeTest {
     }
 
     private static void stick() {
+        edge("11: 0 its PLACE, 1 1 it is turned over, 0 not, 2 to 5 MARKS of its halves 0 to 3, as it lies now", () -> {
+            FanHouse house = Checks.house("stick 0 1 2 3;stick 4 5 6 7;stick 8 9 10 15;");
+            Checks.work(house, "swap 0 2;turn 0;");
+            int[][] want = {{2, 0, 0, 1, 2, 3}, {1, 0, 4, 5, 6, 7}, {0, 1, 15, 10, 9, 8}};
+            for (int stick = 0; stick < 3; stick++) {
+                for (int what = 0; what < 6; what++) {
+                    due("stick(" + stick + ", " + what + ")", house.stick(stick, what), want[stick][what]);
+                }
+            }
+        });
         edge("11: 6 other STICKS (bits) that have the same four MARKS as they lie now", () -> {
             FanHouse seven = Checks.house(ALIKE.repeat(7));
             for (int stick = 0; stick < 7; stick++) {
@@ -1062,6 +1086,13 @@ public final class CallEdgeTest {
                     due("most of " + many, house.span(seed, many, 13, 9, 1), most);
                 }
             }
+        });
+        edge("34: 0 the fewest openings in it, 1 the most: none at all", () -> {
+            FanHouse house = Checks.house(THREE);
+            due("fewest", house.span(1, 10, 0, 48, 0), 0);
+            due("most", house.span(1, 10, 0, 48, 1), 0);
+            due("fewest, no STICKS", new FanHouse().span(1, 10, 16, 48, 0), 0);
+            due("most, no STICKS", new FanHouse().span(1, 10, 16, 48, 1), 0);
         });
         edge("34: IllegalArgumentException: Q, SEASONS, what", () -> {
             FanHouse house = full();

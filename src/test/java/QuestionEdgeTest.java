@@ -135,6 +135,21 @@ public final class QuestionEdgeTest {
                 alike("as it was", state(house), before);
             }
         });
+        edge("Asked, nothing stays changed: what was asked ahead is all the same", () -> {
+            FanHouse house = house(THREE, "9;1;", "16;");
+            due("BRUSH", house.brush(0), 1);
+            due("LAYS", house.lays(0), 0);
+            due("BRUSH", house.brush(0), 1);
+            due("BOTH", house.both(3, 1), 0);
+            due("LAYS", house.lays(1), 0);
+            Checks.picture(house, "");
+            due("LAYS", house.lays(0), 48);
+            due("BRUSH", house.brush(0), 0);
+            due("NEAR", house.near(0), 0);
+            due("BOTH", house.both(3, 1), 48);
+            due("BRUSH", house.brush(0), 0);
+            due("the first", house.laid(0, 2), 4);
+        });
         edge("(open or shut is all the same)", () -> {
             List<Integer> shut = answers(asking(""));
             for (int view = 0; view < 4; view++) {
@@ -252,6 +267,8 @@ public final class QuestionEdgeTest {
         edge("the first of them: PLACE by PLACE the STICK of least number", () -> {
             firstLay(Checks.house(ALIKE.repeat(7)), 2, 0, 2, 4, 6, 8, 10, 12);
             firstLay(house("stick 1 0 0 2;stick 1 0 0 0;", "1;2;"), 0, 2, 1);
+            firstLay(house("stick 9 0 0 9;stick 1 0 0 2;stick 1 0 0 0;", "1;2;"), 0, 4, 3, 0);
+            firstLay(house("stick 9 9 9 9;stick 8 8 8 8;stick 1 0 0 2;stick 1 0 0 0;", "2;1;"), 3, 0, 2, 7, 4);
             firstLay(house(THREE, "2;"), 2, 2, 4, 1);
             firstLay(house(THREE, "16;2;"), 0, 0, 4, 2);
             firstLay(house(THREE, "5;1;3;"), 0, 3, 0, 5);
@@ -465,6 +482,12 @@ public final class QuestionEdgeTest {
             looks("stick 1 2 3 4;", "", 0, 1);
             looks("stick 1 1 1 1;stick 1 1 1 1;", "", 0, 3);
             looks("stick 1 1 1 1;stick 1 5 5 1;", "", 10, 2);
+        });
+        edge("LOOK: each MARK, 0 to 15", () -> {
+            for (int mark = 0; mark < 16; mark++) {
+                String all = "stick " + mark + " " + mark + " " + mark + " " + mark + ";";
+                looks(all.repeat(3), "", 0, 6);
+            }
         });
         edge("LOOK: no FITS are left", () -> {
             looks(THREE, "0 6 1;", 0, 0);

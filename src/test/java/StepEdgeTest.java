@@ -69,6 +69,8 @@ public final class StepEdgeTest {
         edge("At first STICK k lies at PLACE k, none is turned over, the fan is shut, worn by 0, it is SEASON 0", () -> {
             FanHouse house = Checks.house(THREE);
             Checks.work(house, "turn 0;turn 2;swap 0 2;season;open 1 3;");
+            house.ahead(0, 0);
+            house.year(1, 16, 9, 0);
             Checks.fan(house, SEVEN);
             for (int k = 0; k < 7; k++) {
                 due("at(" + k + ")", house.at(k), k);

@@ -467,6 +467,12 @@ public final class TextEdgeTest {
             faulty(FAN, "rive 5;", CANNOT_STAND, 0);
             faulty(FAN, "rivetpaint 5;", CANNOT_STAND, 0);
             faulty(FAN, "Rivet 5;", CANNOT_STAND, 0);
+            String[] fan = {"stick", "rivet", "paint"};
+            String[] work = {"open", "shut", "swap", "turn", "paint", "oil", "season", "again"};
+            String[] law = {"view", "wide", "wear", "opened", "turned", "pots", "season", "least", "most"};
+            spoilt(FAN, fan, " 1;");
+            spoilt(WORK, work, ";");
+            spoilt(LAW, law, "");
             faulty(FAN, "riveT 5;", CANNOT_STAND, 0);
             faulty(FAN, "ri vet 5;", CANNOT_STAND, 0);
             faulty(FAN, "rivet{ 5;", CANNOT_STAND, 5);
@@ -483,6 +489,21 @@ public final class TextEdgeTest {
             faulty(LAW, "leastz[1,2]", CANNOT_STAND, 0);
             faulty(LAW, "mosta[1,2]", CANNOT_STAND, 0);
         });
+    }
+
+    /** Each of the words with one letter of it changed, left out or put in. */
+    private static void spoilt(Reading by, String[] words, String behind) {
+        for (String word : words) {
+            for (int i = 0; i < word.length(); i++) {
+                String ahead = word.substring(0, i);
+                String rest = word.substring(i + 1);
+                faulty(by, ahead + "q" + rest + behind, CANNOT_STAND, 0);
+                faulty(by, ahead + rest + behind, CANNOT_STAND, 0);
+                faulty(by, ahead + "q" + word.charAt(i) + rest + behind, CANNOT_STAND, 0);
+                faulty(by, ahead + Character.toUpperCase(word.charAt(i)) + rest + behind, CANNOT_STAND, 0);
+            }
+            faulty(by, word + "q" + behind, CANNOT_STAND, 0);
+        }
     }
 
     private static void blanks() {
