@@ -1167,6 +1167,9 @@ public final class FanHouse {
         }
 
         private boolean doStep(Fan fan, Law rule, Step kind, int at) {
+            if (kind == null || !isWithin(at, 0, numbers.length - NUMBERS)) {
+                return false;
+            }
             int a = numbers[at];
             int b = numbers[at + 1];
             switch (kind) {

@@ -871,6 +871,11 @@ public final class CallEdgeTest {
             Checks.picture(two, "1;");
             due("above", two.lot(0, 0), 1);
             due("below", two.lot(0, 1), 2);
+            // 1 as STICK 1 or 2, then 0 as STICK 0 either way or as STICK 1: 4 and 4 and 2 of 48
+            FanHouse three = Checks.house("stick 0 0 0 0;stick 1 0 0 0;stick 2 0 0 1;");
+            Checks.picture(three, "1;0;");
+            due("above", three.lot(0, 0), 5);
+            due("below", three.lot(0, 1), 24);
         });
         edge("24: in least terms (0 by 1, if it can't be)", () -> {
             FanHouse house = Checks.house(ALIKE.repeat(7));
@@ -918,6 +923,10 @@ public final class CallEdgeTest {
         });
         edge("26: The longest run of one MARK (of alike ones the first", () -> {
             runs("stick 1 0 5 0;stick 2 0 6 0;stick 3 0 7 0;", 0, 1, 1);
+            runs("stick 1 0 5 0;stick 1 0 6 0;stick 3 0 7 0;", 0, 2, 1);
+            runs("stick 0 0 5 0;stick 1 0 6 0;stick 0 0 7 0;stick 0 0 8 0;stick 1 0 8 0;", 0, 2, 0);
+            runs("stick 0 15 5 0;stick 0 15 6 0;stick 0 15 7 0;", 0, 3, 0);
+            runs("stick 0 15 5 0;stick 0 15 6 0;stick 0 15 7 0;", 1, 3, 15);
             runs("stick 1 0 5 0;stick 2 0 6 0;stick 3 0 7 0;", 2, 1, 7);
             runs("stick 1 0 1 0;stick 1 0 1 0;stick 2 0 2 0;stick 2 0 2 0;", 0, 2, 1);
             runs("stick 1 0 1 0;stick 1 0 1 0;stick 2 0 2 0;stick 2 0 2 0;", 2, 2, 2);
@@ -1085,6 +1094,7 @@ public final class CallEdgeTest {
                     due("fewest of " + many, house.span(seed, many, 13, 9, 0), fewest);
                     due("most of " + many, house.span(seed, many, 13, 9, 1), most);
                 }
+                Checks.picture(house, seed % 2 == 0 ? "16;" : "9;");
             }
         });
         edge("34: 0 the fewest openings in it, 1 the most: none at all", () -> {

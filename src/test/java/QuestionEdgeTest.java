@@ -7,6 +7,10 @@ public final class QuestionEdgeTest {
     private static final String ALIKE = "stick 9 9 9 9;";
     private static final String SEASONS_160 = "again 40[season;season;season;season;];";
     private static final int NONE = FanHouse.NONE;
+    private static final String[] STEPS_OF_FOUR = {"turn 0;", "turn 1;", "turn 2;", "turn 3;", "swap 0 1;", "swap 0 2;",
+        "swap 0 3;", "swap 1 2;", "swap 1 3;", "swap 2 3;"};
+    /** How FITS tells those. */
+    private static final int[] TOLD_OF_FOUR = {0, 1, 2, 3, 101, 102, 103, 112, 113, 123};
 
     private QuestionEdgeTest() {
     }
@@ -271,6 +275,11 @@ public final class QuestionEdgeTest {
             firstLay(house("stick 9 9 9 9;stick 8 8 8 8;stick 1 0 0 2;stick 1 0 0 0;", "2;1;"), 3, 0, 2, 7, 4);
             firstLay(house(THREE, "2;"), 2, 2, 4, 1);
             firstLay(house(THREE, "16;2;"), 0, 0, 4, 2);
+            firstLay(house("stick 1 2 3 4;stick 5 6 7 8;stick 9 10 11 12;", "6;"), 1, 2, 0, 4);
+            firstLay(house("stick 1 2 3 4;stick 5 6 7 8;stick 9 10 11 12;", "7;"), 2, 0, 4, 2);
+            firstLay(house("stick 1 2 3 4;stick 5 6 7 8;stick 9 10 11 12;", "16;4;"), 3, 2, 0, 4);
+            firstLay(house("stick 1 2 3 4;stick 5 6 7 8;stick 9 10 11 12;", "16;16;1;"), 3, 1, 2, 4);
+            firstLay(house("stick 1 2 3 4;stick 5 6 7 8;stick 9 10 11 12;", "16;16;3;"), 1, 2, 4, 1);
             firstLay(house(THREE, "5;1;3;"), 0, 3, 0, 5);
             firstLay(house(THREE, "5;1;1;"), 0, NONE, NONE, NONE);
         });
@@ -327,6 +336,11 @@ public final class QuestionEdgeTest {
             due("7", house(ALIKE.repeat(7), "8;8;8;8;8;8;8;").brush(1), 7);
             due("6", house(ALIKE.repeat(7), "8;8;8;9;8;8;8;").brush(1), 6);
             due("those that fit stay", house("stick 1 0 0 2;stick 1 0 0 0;", "1;2;").brush(0), 0);
+            due("as they lie", house("stick 1 0 0 0;stick 2 0 0 0;", "1;2;").brush(0), 0);
+            due("the other way round", house("stick 1 0 0 0;stick 2 0 0 0;", "2;1;").brush(0), 0);
+            due("one of three", house("stick 1 0 0 0;stick 2 0 0 0;stick 3 0 0 0;", "1;2;9;").brush(0), 1);
+            due("one of three", house("stick 1 0 0 0;stick 2 0 0 0;stick 3 0 0 0;", "9;1;2;").brush(0), 1);
+            due("one of three", house("stick 1 0 0 0;stick 2 0 0 0;stick 3 0 0 0;", "3;9;1;").brush(0), 1);
             due("one of them", house("stick 1 0 0 2;stick 1 0 0 3;", "2;2;").brush(0), 1);
             due("by its half, not by any", house("stick 1 2 3 4;", "2;").brush(0), 1);
         });
@@ -362,9 +376,33 @@ public final class QuestionEdgeTest {
             due("a turn, not a swap and more", near("stick 1 0 0 2;stick 2 0 0 3;", "", "2;2;", 0), 1);
             due("open", near("stick 1 0 0 2;stick 2 0 0 1;", "open 0 1;", "2;1;", 0), 1);
             due("from the last PLACE on", near(four, "", "3;16;2;", 2), 1);
+            nearByEachStep("stick 0 1 1 1;stick 1 0 2 0;stick 0 2 1 1;stick 1 1 0 0;");
+            nearByEachStep("stick 0 1 1 0;stick 0 0 2 1;stick 2 2 1 0;stick 1 1 0 2;");
             due("the most", near("stick 0 0 0 1;stick 2 2 2 3;stick 4 4 4 5;stick 6 6 6 7;stick 8 8 8 9;"
                     + "stick 10 10 10 11;stick 12 12 12 13;", "", "3;5;7;9;11;13;1;", 0), 13);
         });
+    }
+
+    /** 0, if the VIEW SHOWS the PICTURE, or one more than the least behind a turn or a swap. */
+    private static void nearByEachStep(String fan) {
+        String[] works = {"", "swap 0 1;swap 2 3;turn 1;", "swap 0 3;swap 1 3;swap 0 2;turn 0;turn 2;"};
+        String[] pictures = {"0;1;", "16;0;0;", "1;16;1;0;", "2;1;", "0;0;1;1;", "1;0;2;0;"};
+        for (String work : works) {
+            for (String picture : pictures) {
+                for (int view = 0; view < 4; view++) {
+                    int least = near(fan, work, picture, view);
+                    int by = 99;
+                    for (String step : STEPS_OF_FOUR) {
+                        int behind = near(fan, work + step, picture, view);
+                        by = behind == NONE ? by : Math.min(by, behind + 1);
+                    }
+                    FanHouse house = house(fan, picture);
+                    Checks.work(house, work);
+                    due("NEAR of VIEW " + view + " '" + picture + "' behind '" + work + "'", least,
+                            house.shows(view) ? 0 : by == 99 ? NONE : by);
+                }
+            }
+        }
     }
 
     private static void chance(FanHouse house, int view, int above, int below) {
@@ -489,6 +527,14 @@ public final class QuestionEdgeTest {
                 looks(all.repeat(3), "", 0, 6);
             }
         });
+        edge("LOOK: by all that is seen behind each of FITS", () -> {
+            String[] books = {"", "0 0 0;", "0 0 1;1 1 0;", "2 0 1;", "3 3 0;2 1 1;", "0 1 1;0 2 0;0 3 1;", "0 0 0;0 0 1;"};
+            for (String book : books) {
+                lookByEachStep("stick 0 1 1 1;stick 1 0 2 0;stick 0 2 1 1;stick 1 1 0 0;", book);
+                lookByEachStep("stick 0 1 1 0;stick 0 0 2 1;stick 2 2 1 0;stick 1 1 0 2;", book);
+                lookByEachStep("stick 3 1 5 7;stick 3 1 5 7;stick 7 1 5 3;stick 0 15 15 0;", book);
+            }
+        });
         edge("LOOK: no FITS are left", () -> {
             looks(THREE, "0 6 1;", 0, 0);
             looks(THREE, "0 0 4;0 0 2;", 1, 0);
@@ -498,6 +544,54 @@ public final class QuestionEdgeTest {
             looks(ALIKE.repeat(7), "0 0 9;0 1 9;0 2 9;0 3 9;0 4 9;0 5 9;", 6, 28);
             looks(ALIKE.repeat(7), "0 0 9;0 1 9;0 2 9;0 3 9;0 4 9;0 5 9;0 6 9;", 10, 28);
         });
+    }
+
+    /** FITS and LOOK by doing each turn and swap, and reading what is seen then. */
+    private static void lookByEachStep(String fan, String book) {
+        String work = "swap 0 2;turn 1;";
+        List<FanHouse> fits = new ArrayList<>();
+        int first = NONE;
+        for (int i = 0; i < STEPS_OF_FOUR.length; i++) {
+            FanHouse house = Checks.house(fan);
+            Checks.work(house, work + STEPS_OF_FOUR[i]);
+            if (isRight(house, book)) {
+                first = fits.isEmpty() ? TOLD_OF_FOUR[i] : first;
+                fits.add(house);
+            }
+        }
+        FanHouse asked = booked(fan, book);
+        Checks.work(asked, work + "open 0 1;");
+        due("FITS by '" + book + "'", asked.fits(0), fits.size());
+        due("the first by '" + book + "'", asked.fits(1), first);
+        int where = NONE;
+        int left = 99;
+        for (int spot = 0; spot < 16; spot++) {
+            int worst = 0;
+            for (int mark = 0; mark < 16; mark++) {
+                int many = 0;
+                for (FanHouse house : fits) {
+                    many += house.mark(spot / 4, spot % 4) == mark ? 1 : 0;
+                }
+                worst = Math.max(worst, many);
+            }
+            if (!(";" + book).contains(";" + spot / 4 + " " + spot % 4 + " ") && worst < left) {
+                left = worst;
+                where = 10 * (spot / 4) + spot % 4;
+            }
+        }
+        due("LOOK by '" + book + "'", asked.look(0), where);
+        due("left by '" + book + "'", asked.look(1), left);
+    }
+
+    private static boolean isRight(FanHouse house, String book) {
+        boolean right = true;
+        for (String line : book.split(";")) {
+            if (!line.isEmpty()) {
+                String[] x = line.split(" ");
+                right &= house.mark(Integer.parseInt(x[0]), Integer.parseInt(x[1])) == Integer.parseInt(x[2]);
+            }
+        }
+        return right;
     }
 
     private static void sell(int v, int w, int many, int first, int together) {

@@ -311,6 +311,18 @@ public final class StepEdgeTest {
                 due("half " + half, house.stick(0, 2 + half), want[half]);
             }
         });
+        edge("paint: the STICK at PLACE P, wherever it is told", () -> {
+            FanHouse house = Checks.house("stick 1 2 3 4;stick 5 6 7 8;stick 9 10 11 12;");
+            works(house, "swap 0 2;swap 1 2;turn 1;", 3, 0);
+            // STICK 2, then 0 turned over, then 1
+            works(house, "paint 0 0 9;paint 1 0 4;paint 2 0 5;", 0, 3);
+            works(house, "paint 0 0 1;paint 1 0 5;paint 2 0 9;", 3, 0);
+            int[] want = {1, 2, 3, 5, 9, 6, 7, 8, 1, 10, 11, 12};
+            works(house, "turn 1;", 1, 0);
+            for (int i = 0; i < want.length; i++) {
+                due("half " + i % 4 + " of STICK " + i / 4, house.stick(i / 4, 2 + i % 4), want[i]);
+            }
+        });
         edge("paint (REFUSED, if there is none", () -> {
             works(Checks.house("stick 1 2 3 4;paint 0;"), "paint 0 0 9;", 0, 1);
             FanHouse house = Checks.house("stick 1 2 3 4;paint 1;");

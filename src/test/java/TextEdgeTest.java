@@ -183,6 +183,9 @@ public final class TextEdgeTest {
             strains("29%10%5", 4);
             strains("7*5%4", 3);
             strains("7*(5%4)", 7);
+            faulty(LAW, "()", CANNOT_STAND, 1);
+            faulty(LAW, "(1)(2)", CANNOT_STAND, 3);
+            faulty(LAW, "1(2)", CANNOT_STAND, 1);
             strains("7/2*2", 6);
             faulty(LAW, "+1", CANNOT_STAND, 0);
             faulty(LAW, "1+-1", CANNOT_STAND, 2);
@@ -345,6 +348,8 @@ public final class TextEdgeTest {
             faulty(WORK, "swap 3 0;", NO_SUCH_NUMBER, 5);
             faulty(WORK, "swap 0 3;", NO_SUCH_NUMBER, 7);
             faulty(WORK, "paint 3 0 0;", NO_SUCH_NUMBER, 6);
+            faulty(WORK, "again 1[turn 3;];", NO_SUCH_NUMBER, 13);
+            faulty(WORK, "again 1[again 1[swap 0 3;];];", NO_SUCH_NUMBER, 23);
             FanHouse none = new FanHouse();
             due("no STICKS", Checks.work(none, "turn 0;"), -8);
             due("no STICKS", none.fault(), 5);
@@ -619,7 +624,15 @@ public final class TextEdgeTest {
             faulty(LAW, "(((((( most[1,2]))))))", TOO_MANY, 7);
             faulty(LAW, "most[1,most[2,most[3,most[4,most[5,most[6,(7)]]]]]]", TOO_MANY, 42);
             faulty(LAW, "least[most[(((((", TOO_MANY, 15);
+            faulty(LAW, "((((((  least[", TOO_MANY, 8);
+            faulty(LAW, "((((((  most[", TOO_MANY, 8);
+            faulty(LAW, "((((((1*(2", TOO_MANY, 8);
+            faulty(LAW, "((((((1/1%(2", TOO_MANY, 10);
+            faulty(LAW, "((((((1+(2", TOO_MANY, 8);
+            faulty(LAW, "((((((1-1+least[2", TOO_MANY, 10);
             reads(WORK, "again 1[".repeat(6) + "];".repeat(6), 0);
+            reads(WORK, "again 1[".repeat(6) + "turn 0;" + "];".repeat(6), 1);
+            reads(WORK, "turn 0;turn 1;oil;again 1[oil;" + "again 1[".repeat(5) + "turn 0;" + "];".repeat(6), 3);
             faulty(WORK, "again 1[".repeat(7) + "];".repeat(7), TOO_MANY, 48);
             faulty(WORK, "again 1[".repeat(6) + "  again", TOO_MANY, 50);
         });
@@ -627,6 +640,12 @@ public final class TextEdgeTest {
             strains("((((((1))))))+((((((2))))))", 3);
             strains("least[(((((1))))),(((((2)))))]", 1);
             strains("(1)+(1)+(1)+(1)+(1)+(1)+(1)+(1)", 8);
+            strains("(1)*(1)*(1)*(1)*(1)*(1)*(1)*(8)", 8);
+            strains("1*1*1*1*1*1*1*1*(2)", 2);
+            strains("1+1+1+1+1+1+1+1+(2)", 10);
+            strains("(((((2*(3))))))", 6);
+            strains("(((((2+(3))))))", 5);
+            strains("(((((12/2%(4))))))", 2);
             strains("most[1,2]*most[1,2]*most[1,2]+most[1,2]*most[1,2]*most[1,2]+most[1,2]", 18);
             faulty(LAW, "((((((1))))))+(((((((2)))))))", TOO_MANY, 20);
             faulty(LAW, "least[(((((1))))),((((((2))))))]", TOO_MANY, 23);
