@@ -602,6 +602,23 @@ public final class QuestionEdgeTest {
         due(call + " together", house.sellers(v, w, 2), together);
     }
 
+    private static void sellByTable(int v, int w) {
+        int[][] one = {{v, 0}, {w, w / 2}};
+        int many = 0;
+        int first = NONE;
+        int together = 0;
+        for (int i = 3; i >= 0; i--) {
+            int his = i / 2;
+            int others = i % 2;
+            if (one[his][others] >= one[1 - his][others] && one[others][his] >= one[1 - others][his]) {
+                many++;
+                first = 10 * his + others;
+                together = one[his][others] + one[others][his];
+            }
+        }
+        sell(v, w, many, first, together);
+    }
+
     private static void sellers() {
         edge("both little: each has w by 2 (cut)", () -> {
             sell(0, 1, 3, 1, 1);
@@ -622,6 +639,13 @@ public final class QuestionEdgeTest {
             sell(99, 99, 2, 0, 198);
             sell(99, 0, 2, 0, 198);
             sell(0, 99, 1, 11, 98);
+        });
+        edge("SELLERS by each v, w (0 to 99): of what both have, told as a table", () -> {
+            for (int v = 0; v < 100; v++) {
+                for (int w = 0; w < 100; w++) {
+                    sellByTable(v, w);
+                }
+            }
         });
     }
 
